@@ -582,6 +582,17 @@ public final class PartCellsPromises {
         due("saved(23)", x.saved(23), 11);
         due("saved(30)", x.saved(30), 11);
         due("saved(31)", x.saved(31), 13);
+        // machine 0 alone in cell 3 wanders from cell 0, 6 from cell 0 to 1
+        x.works(7, 2);
+        x.group(3 + 4096);
+        x.route(0, 0, 0b0000111);
+        x.pieces(0, 8);
+        x.route(1, 0, 0b1001100);
+        x.price(0, 50);
+        x.price(6, 1);
+        due("saved(49)", x.saved(49), 1);
+        due("saved(50)", x.saved(50), 8);
+        due("saved(51)", x.saved(51), 9);
         due("saved(201)", x.saved(201), BAD);
         due("saved(-1)", x.saved(-1), BAD);
     }
@@ -600,6 +611,16 @@ public final class PartCellsPromises {
         due("way(4, 1, 2, 3)", x.way(4, 1, 2, 3), BAD);
         due("way(0, -1, 2, 3)", x.way(0, -1, 2, 3), BAD);
         due("way(0, 1, -1, 3)", x.way(0, 1, -1, 3), BAD);
+        due("way(0, 1, 6, 3)", x.way(0, 1, 6, 3), BAD);
+        due("way(0, 1, 0, 11)", x.way(0, 1, 0, 11), BAD);
+        due("way(0, 0, 16, 27)", x.way(0, 0, 16, 27), BAD);
+        // machine 0 alone in cell 2 wanders from cell 0
+        x.works(3, 1);
+        x.group(2);
+        x.route(0, 0, 0b111);
+        x.pieces(0, 7);
+        due("way(2, 1, 0, 3)", x.way(2, 1, 0, 3), 14);
+        due("way(3, 1, 2, 0)", x.way(3, 1, 2, 0), 7);
     }
 
     private static void floor() {
@@ -694,6 +715,32 @@ public final class PartCellsPromises {
         x.group(0);
         due("plan(): the grouping at hand is no shelf", x.plan(), 7);
         due("the trace stays", x.trace(), 0);
+        planShelves();
+    }
+
+    /** Each shelf once the only one that splits nothing, in one year and in six. */
+    private static void planShelves() {
+        for (int good = 0; good < 4; good++) {
+            PartCells x = new PartCells();
+            x.route(0, 0, 0b0011);
+            x.group(1);
+            for (int shelf = 0; shelf < 4; shelf++) {
+                x.keep(shelf);
+            }
+            x.year(9);
+            due("plan()", x.plan(), 9);
+            x.group(5);
+            x.keep(good);
+            due("plan() by shelf " + good, x.plan(), 0);
+            x.route(1, 0, 0b1100);
+            x.group(5 + 64);
+            x.keep(good);
+            x.pieces(0, 3);
+            for (int i = 1; i < 6; i++) {
+                x.year(i);
+            }
+            due("plan() of six years by shelf " + good, x.plan(), 9 + 1 + 2 + 3 + 4 + 5);
+        }
     }
 
     private static void count() {
