@@ -126,6 +126,9 @@ public final class PartCellsBoundaries {
 
     private static PartCells full() {
         PartCells x = sized(7, 8);
+        x.year(9);
+        x.change(50);
+        x.loss(2);
         for (int part = 0; part < 8; part++) {
             x.route(part, 0, 127);
             x.route(part, 1, 127);
@@ -995,6 +998,7 @@ public final class PartCellsBoundaries {
         savedWithinPurse();
         savedOnce();
         savedForEachCell();
+        savedByEachMachine();
         savedGreatest();
     }
 
@@ -1117,6 +1121,21 @@ public final class PartCellsBoundaries {
         due("saved(200): all that wanders", x.saved(200), x.loss(0));
     }
 
+    private static void savedByEachMachine() {
+        says(19, "COPIES (each MACHINE ..) take off WANDER");
+        for (int alone = 0; alone < 7; alone++) {
+            for (int cell = 1; cell < 4; cell++) {
+                PartCells x = going(7, 127);
+                x.pieces(0, 6);
+                x.cell(alone, cell);
+                x.price(alone, 50);
+                due("copy(" + alone + ", 0)", x.copy(alone, 0), 6);
+                due("saved(49) with " + alone + " in " + cell, x.saved(49), 0);
+                due("saved(50) with " + alone + " in " + cell, x.saved(50), 6);
+            }
+        }
+    }
+
     private static void savedGreatest() {
         says(19, "the greatest sum of PIECES");
         PartCells x = going(4, 3, 5, 9);
@@ -1138,6 +1157,7 @@ public final class PartCellsBoundaries {
     private static void floorPlaces() {
         wayEachOnce();
         wayHowFar();
+        wayOfEachMachine();
         wayWithoutWandering();
         floorOfSeveral();
         floorLeast();
@@ -1174,6 +1194,19 @@ public final class PartCellsBoundaries {
         due("way(0, 1, 2, 3): the most there is", mostWandering().way(0, 1, 2, 3), 72 * (2 * 1 + 2 * 2 + 3));
         due("way(3, 2, 1, 0)", mostWandering().way(3, 2, 1, 0), 72 * 9);
         due("way(0, 3, 2, 1)", mostWandering().way(0, 3, 2, 1), 72 * (2 * 3 + 2 * 2 + 1));
+    }
+
+    private static void wayOfEachMachine() {
+        says(20, "the CELL of each MACHINE that WANDERS");
+        for (int alone = 0; alone < 7; alone++) {
+            for (int cell = 1; cell < 4; cell++) {
+                PartCells x = going(7, 127);
+                x.pieces(0, 2);
+                x.cell(alone, cell);
+                due("way(0, 1, 2, 3) with " + alone + " in " + cell, x.way(0, 1, 2, 3), 2 * cell);
+                due("floor(4) with " + alone + " in " + cell, x.floor(4), 2);
+            }
+        }
     }
 
     private static void wayWithoutWandering() {
