@@ -18,6 +18,11 @@ public final class PartCellsFace {
         "floor 1", "keep 1", "year 1", "change 1", "plan 0", "count 1", "trace 0"};
     private static final String[] FORBIDDEN = {"throw", "try", "catch", "synchronized", "assert", "Exact", "MAX_VALUE", "MIN_VALUE",
         "System.out", "System.err", "->", "::", "package ", "null", "protected", "Object", "static {"};
+    private static final int MOST_CLASSES = 12;
+    private static final int MOST_FIELDS = 20;
+    private static final int MOST_LINES = 60;
+    private static final Set<Class<?>> STATIC_TYPES = Set.of(int.class, long.class, boolean.class, char.class, String.class,
+        int[].class, long[].class, char[].class, byte[].class);
     private static int wrong = 0;
 
     private static void check(boolean holds, String what) {
@@ -32,6 +37,7 @@ public final class PartCellsFace {
         checkConstants();
         checkMethods();
         checkInnerNames();
+        checkSizes();
         checkText();
         System.out.println(wrong == 0 ? "the face is as due" : wrong + " things are not as due");
         if (wrong != 0) {
@@ -98,6 +104,26 @@ public final class PartCellsFace {
         }
     }
 
+    private static void checkSizes() {
+        check(PartCells.class.getDeclaredClasses().length < MOST_CLASSES, "there are too many classes");
+        checkFields(PartCells.class);
+        for (Class<?> inner : PartCells.class.getDeclaredClasses()) {
+            checkFields(inner);
+        }
+    }
+
+    private static void checkFields(Class<?> some) {
+        int fields = 0;
+        for (Field field : some.getDeclaredFields()) {
+            if (Modifier.isStatic(field.getModifiers())) {
+                check(STATIC_TYPES.contains(field.getType()), field.getName() + " is no constant that the rules allow");
+            } else {
+                fields++;
+            }
+        }
+        check(fields <= MOST_FIELDS, some.getName() + " has too many fields");
+    }
+
     private static void checkText() throws IOException {
         String text = Files.readString(Path.of(SOURCE), StandardCharsets.UTF_8);
         String code = text.replaceAll("(?s)/\\*.*?\\*/", "").replaceAll("//[^\n]*", "");
@@ -106,6 +132,24 @@ public final class PartCellsFace {
         }
         for (String line : code.split("\n")) {
             check(!line.startsWith("import ") || line.equals("import java.util.Arrays;"), "PartCells.java has " + line);
+            // rows are made with the object and used again, so that no call takes from the room
+            check(!line.contains("new ") || line.trim().startsWith("private final "), "made outside of a constructor: " + line);
+        }
+        checkLengths(code.split("\n"));
+    }
+
+    /** A method ends at the brace that stands as deep as its head, at the first or second depth of the file. */
+    private static void checkLengths(String[] lines) {
+        for (String indent : new String[] {"    ", "        "}) {
+            int head = -1;
+            for (int at = 0; at < lines.length; at++) {
+                if (lines[at].matches(indent + "[a-z].*\\) \\{")) {
+                    head = at;
+                } else if (head >= 0 && lines[at].equals(indent + "}")) {
+                    check(at - head < MOST_LINES, "too long: " + lines[head].trim());
+                    head = -1;
+                }
+            }
         }
     }
 }
